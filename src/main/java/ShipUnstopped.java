@@ -1309,9 +1309,7 @@ public final class ShipUnstopped {
             }
             prepare(0, HOURS);
             Arrays.fill(hours, FOR_EVER);
-            // Both rows, as lookAnHourAhead leaves standing what did not move.
             Arrays.fill(can, (1 << SPEEDS) - 1);
-            Arrays.fill(could, (1 << SPEEDS) - 1);
             ahead = 0;
             for (int n = 0; n <= ROWS; n++) {
                 if (lookAnHourAhead(1, NONE, 1) == 0) {
@@ -1360,7 +1358,6 @@ public final class ShipUnstopped {
         /** From the end: layer j can, if it can surely come to the goal j + 1 times in so many HOURS. */
         int surelyBetween(int state, int goal, int times) {
             Arrays.fill(can, 0);
-            Arrays.fill(could, 0);
             int asked = (times - 1) * SPOTS + spotOf(laneOf(state), placeOf(state), hourOf(state));
             int moved = (1 << times) - 1;
             for (int i = 1; i <= MOST_HOURS && moved != 0; i++) {
@@ -1413,8 +1410,9 @@ public final class ShipUnstopped {
         }
 
         /**
-         * can (for n HOURS) goes to could, and can is for n + 1. A layer is what must yet be come to, less
-         * one; it stands still if it and the one below did the last time (moved, bits). Answers what moved.
+         * can (for n HOURS) goes to could, and can is for n + 1. A layer is how often it must yet come, less
+         * one; if it and the one below stood still the last time (moved, bits), it does so again, and both
+         * rows hold it already. Answers what moved.
          */
         private int lookAnHourAhead(int layers, int goal, int moved) {
             int[] old = can;

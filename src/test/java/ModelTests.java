@@ -4,6 +4,8 @@ public final class ModelTests {
         "last", "place", "lane", "fast", "<", "<=", ">", ">=", "=", "#", "+", "-", "*", "/", "(", ")", ";", "1", "2", "3", "17",
         "9999", "10000", "!", " ", "\n", "x", "((", "not not not", "--", "))"};
 
+    private static final String[] NAMES = {"hour", "weight", "hour", "weight", "hour", "place", "fast", "sail", "wind", "last", "lane"};
+
     private final Draw draw;
     private final ShipUnstopped ship;
     private final Model model;
@@ -30,7 +32,13 @@ public final class ModelTests {
     }
 
     private static void texts(Draw draw) {
-        String text = draw.below(3) == 0 ? soup(draw) : spoilt(draw, law(draw));
+        String text = switch (draw.below(6)) {
+            case 0 -> soup(draw);
+            case 1 -> deep(draw);
+            case 2 -> law(draw) + law(draw);
+            case 3 -> "tide 1<2 and " + sum(draw, 3, NAMES) + ">0;speed " + sum(draw, 2, NAMES) + ";draught " + sum(draw, 2, NAMES) + ";";
+            default -> spoilt(draw, law(draw));
+        };
         if (text.length() > 300) {
             text = text.substring(0, 300);
         }
@@ -44,6 +52,21 @@ public final class ModelTests {
             text.append(WORDS[draw.below(WORDS.length)]).append(draw.below(2) == 0 ? " " : "");
         }
         return text.toString();
+    }
+
+    /** About as many brackets, minuses and nots around one another as may be. */
+    private static String deep(Draw draw) {
+        String nots = "not ".repeat(draw.below(2) * draw.below(6));
+        String text = (nots.isEmpty() ? "speed " : "tide 3>2 or " + nots) + nest(draw, 9 - nots.length() / 4);
+        return text + (nots.isEmpty() ? "" : "<" + nest(draw, 9 - nots.length() / 4)) + ";";
+    }
+
+    private static String nest(Draw draw, int about) {
+        String inner = "1";
+        for (int i = about - 3 + draw.below(4); i > 0; i--) {
+            inner = draw.below(2) == 0 ? "-" + inner : "(" + (draw.below(3) == 0 ? "-2*" : "") + inner + (draw.below(3) == 0 ? "-(3)" : "") + ")";
+        }
+        return inner;
     }
 
     private static String spoilt(Draw draw, String text) {
@@ -199,7 +222,7 @@ public final class ModelTests {
             }
             is("feed", ship.feed(words[0], words[1], words[2], words[3], words[4]), model.feed(words));
         }
-        int n = draw.below(20) == 0 ? draw.below(320) : text.length();
+        int n = draw.below(6) == 0 ? draw.below(text.length() + 20) : text.length();
         is("end " + n, ship.end(n), model.end(n));
         is("text " + text, ship.text(), model.text());
         is("fault(0) " + text, ship.fault(0), model.fault(0));

@@ -515,6 +515,7 @@ public final class PromiseTests {
         Due.is("the next round", x.meet(1, 0, 16, 1), 24);
         Due.is("48", x.meet(1, 0, 48, 1), 48);
         Due.is("49", x.meet(1, 0, 49, 1), -1);
+        Due.is("49, where it would be", x.meet(Due.state(0, 11, 0, 1), 0, 49, 1), -1);
         Due.is("-1", x.meet(1, 0, -1, 1), -1);
         Due.is("56", x.meet(Due.state(0, 4, 0, 1), 0, 48, 1), 56);
         Due.is("1 at least", x.meet(1, 1, 0, 1), 1);
@@ -522,6 +523,8 @@ public final class PromiseTests {
         Due.is("speed 2", x.meet(1, 1, 0, 2), -1);
         Due.is("speed 0", x.meet(1, 1, 0, 0), -1);
         Due.is("speed 5", x.meet(1, 1, 0, 5), -1);
+        Due.is("speed 33", x.meet(1, 1, 0, 33), -1);
+        Due.is("speed MIN", x.meet(1, 1, 0, MIN), -1);
         Due.is("place 12", x.meet(1, 12, 0, 1), -1);
         Due.is("place -1", x.meet(1, -1, 0, 1), -1);
         Due.rule(x, "speed sail+1; draught 1;");

@@ -5,9 +5,11 @@ public final class TextTests {
         texts();
         tokens();
         faults();
+        manyFaults();
         nesting();
         sums();
         asks();
+        deepest();
         namesOfSpeed();
         namesOfDraughtAndTide();
         Due.close("TextTests");
@@ -108,6 +110,21 @@ public final class TextTests {
         Due.fault("tide 1 >= 2;", 0, 0);
         Due.fault("tide 1 >- 2;", 0, 0);
         Due.fault("tide 1 <=- 2;", 0, 0);
+        for (String end : new String[] {"a", "z", "A", "Z"}) {
+            Due.fault("speed hour" + end + ";", 1, 6);
+        }
+        for (String sign : new String[] {"@", "[", "`", "{", ":", "_", "." , ",", "$", "%", "&", "'", "?", "~"}) {
+            Due.fault("speed hour" + sign + ";", 1, 10);
+            Due.fault("speed 12" + sign + "3;", 1, 8);
+        }
+        Due.fault("speed 01234+56789;", 2, 12);
+        Due.fault(";".repeat(300), 1, 0);
+        Due.fault("(".repeat(300), 1, 0);
+        cut("speed 12;", 7, 1, 7);
+        cut("speed hour+1;", 8, 1, 6);
+        cut("tide 1<=2;", 7, 1, 7);
+        cut("speed 1; ;", 8, 0, 0);
+        cut("speed 1; tide", 11, 1, 9);
         StringBuilder longest = new StringBuilder("speed 1");
         while (longest.length() < 299) {
             longest.append(longest.length() % 2 == 1 ? '+' : '1');
@@ -115,6 +132,27 @@ public final class TextTests {
         Due.fault(longest + ";", 0, 0);
         Due.fault(longest + "!", 1, 299);
         Due.fault(longest + " ", 1, 300);
+    }
+
+    /** What stands behind the end of the tape, from what was fed, doesn't count. */
+    private static void cut(String text, int n, int fault, int at) {
+        ShipUnstopped x = new ShipUnstopped(4);
+        Due.feed(x, text);
+        x.end(n);
+        Due.is("text: " + text + " to " + n, x.text(), fault == 0 ? 0 : -1);
+        Due.is("fault(0): " + text + " to " + n, x.fault(0), fault);
+        Due.is("fault(1): " + text + " to " + n, x.fault(1), fault == 0 ? -1 : at);
+    }
+
+    private static void manyFaults() {
+        ShipUnstopped x = new ShipUnstopped(12);
+        for (int i = 0; i < 60; i++) {
+            Due.feed(x, "speed 1+1+1+1+1+1+1; tide 1<2; draught 9; speed 1;");
+            Due.is("text()", x.text(), -1);
+            Due.is("fault(0)", x.fault(0), 4);
+        }
+        Due.rule(x, "speed 1+2;");
+        Due.is("becomes", x.becomes(1, 4, 1), Due.state(0, 3, 1, 3));
     }
 
     private static void faults() {
@@ -228,6 +266,11 @@ public final class TextTests {
         sum("(9999*9999+5)/1000-(9999*101)/1000", 0);
         sum("(9999*9999-9999)/9-9999*11", 11);
         sum("(0-9999*9999-9999)/1000", -1000);
+        sum("9999*9999-9999*100-100", 0);
+        sum("9999*100+100+1-9999*100", 100);
+        sum("-9999*9999+9999*100+100", 0);
+        sum("1+2*(1+2*(1+2*(1+2*(1+2*(1+2*(1+2*(1+2*(1+2*1))))))))", 1023);
+        sum("1-2*(1-2*(1-2*(1-2*(1-2*(1-2*(1-2*(1-2*(1-2*1))))))))", -341);
         sum("(0-9999*9999+1)/9999", -100);
     }
 
@@ -261,6 +304,18 @@ public final class TextTests {
             ask(p + " or " + q + " or " + r, a || b || c);
             ask(p + " and " + q + " and " + r, a && b && c);
         }
+    }
+
+    /** As many operands waiting as there can be. */
+    private static void deepest() {
+        StringBuilder sum = new StringBuilder("3+2*1");
+        int value = 5;
+        for (int i = 0; i < 8; i++) {
+            sum.insert(0, "3+2*(").append(")");
+            value = 3 + 2 * value;
+        }
+        ask("1=2 or 1=1 and " + value + "=" + sum, true);
+        ask("1=2 or 1=1 and " + value + "#" + sum, false);
     }
 
     private static void namesOfSpeed() {
