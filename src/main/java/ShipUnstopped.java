@@ -1173,7 +1173,7 @@ public final class ShipUnstopped {
     private static final class Crew {
         final int[] people = new int[MOST_LEAPS];
         final int[] laps = new int[MOST_LEAPS];
-        final boolean[] came = new boolean[MOST_LEAPS];
+        final int[] comes = new int[MOST_LEAPS];
         int count;
         int present;
 
@@ -1183,7 +1183,7 @@ public final class ShipUnstopped {
             }
             people[count] = who;
             laps[count] = lap;
-            came[count] = on;
+            comes[count] = on ? 1 : 0;
             count++;
             present ^= 1 << who;
             return count;
@@ -1197,7 +1197,7 @@ public final class ShipUnstopped {
                 int bit = 1 << people[i];
                 if (laps[i] < lap) {
                     ahead ^= bit;
-                } else if (came[i]) {
+                } else if (comes[i] == 1) {
                     comers |= bit;
                 } else {
                     leavers |= bit;
@@ -1209,7 +1209,7 @@ public final class ShipUnstopped {
         void copyFrom(Crew other) {
             System.arraycopy(other.people, 0, people, 0, MOST_LEAPS);
             System.arraycopy(other.laps, 0, laps, 0, MOST_LEAPS);
-            System.arraycopy(other.came, 0, came, 0, MOST_LEAPS);
+            System.arraycopy(other.comes, 0, comes, 0, MOST_LEAPS);
             count = other.count;
             present = other.present;
         }
