@@ -153,6 +153,11 @@ public final class TextTests {
         }
         Due.rule(x, "speed 1+2;");
         Due.is("becomes", x.becomes(1, 4, 1), Due.state(0, 3, 1, 3));
+        // what a longer text with a fault left behind doesn't count
+        Due.feed(x, "speed -1;!");
+        Due.is("text()", x.text(), -1);
+        Due.rule(x, "speed 3;");
+        Due.is("becomes", x.becomes(1, 4, 1), Due.state(0, 3, 1, 3));
     }
 
     private static void faults() {
