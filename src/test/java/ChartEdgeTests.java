@@ -173,6 +173,8 @@ public final class ChartEdgeTests {
         x.winds(1, 12);
         Due.is("and then either", x.reach(1, 2, 2), 1 << 4 | 1 << 5 | 1 << 7 | 1 << 8);
         Due.is("lane 2 is two hours on", x.reach(1, 1, 2), 0);
+        Due.is("and lane 0 from it", x.reach(Due.state(2, 0, 0, 1), 1, 0), 0);
+        Due.yes("and lane 0 from it", x.reach(Due.state(2, 0, 0, 1), 2, 0) != 0);
         Due.rule(x, "speed sail+1;");
         Due.is("any sail", x.reach(1, 1, 1), 30);
         // 1, 2 or 4 in hour 0; in hour 1 one less than that, 1 at least
@@ -408,6 +410,14 @@ public final class ChartEdgeTests {
         Due.is("lane 1, two places ahead: by lane 0 it is lost", y.best(Due.state(1, 1, 0, 1)), 4);
         Due.is("lane 1, a place ahead", y.best(Due.state(1, 2, 0, 1)), 8);
         Due.is("lane 1, three places ahead", y.best(Due.state(1, 0, 0, 1)), 0);
+        // behind the hour is the next hour: at 6 in hour 6 it is lost, in another hour it isn't
+        ShipUnstopped z = new ShipUnstopped(8);
+        Due.rule(z, "speed sail+1;tide hour#6;");
+        z.rocks(128);
+        Due.is("past 7 in hour 5", z.best(Due.state(0, 5, 5, 1)), 5);
+        Due.is("in hour 4: it is at 6 in hour 5", z.best(Due.state(0, 5, 4, 1)), 4);
+        Due.is("in hour 7", z.best(Due.state(0, 5, 7, 1)), 4);
+        Due.is("lost", z.best(Due.state(0, 6, 6, 1)), -1);
     }
 
     /** best: "NONE: it isn't KEPT FOR EVER, and for others." */
@@ -707,6 +717,21 @@ public final class ChartEdgeTests {
         answers(x, "weight", 0, false, 6, -1);
         x.back();
         answers(x, "back", 2, true, 0, 1);
+        // laws that change by the hour alone, and nothing but the ground told anew
+        ShipUnstopped y = new ShipUnstopped(8);
+        Due.rule(y, "draught hour;");
+        Due.rule(y, "tide hour#6;");
+        for (int text = 0; text < 2; text++) {
+            y.by(text);
+            for (int i = 0; i < 3; i++) {
+                allLanes(y, 7, 5 - i);
+                y.rocks(128 >> i);
+                Due.yes("in hour 6 to 7", y.kept(Due.state(0, 6, 6, 1), 1) == (text == 1 && i > 0));
+                Due.yes("in hour 5 to 7", y.kept(Due.state(0, 6, 5, 1), 1) == (text == 1 || i == 0));
+                Due.yes("in hour 3 to 7", y.kept(Due.state(0, 6, 3, 1), 1));
+                Due.yes("in hour 6 to the rocks", y.kept(Due.state(0, 6 - i, 6, 1), 1) == (text == 0 && i > 0));
+            }
+        }
     }
 
     private static void answers(ShipUnstopped x, String when, int reach, boolean kept, int think, int meet) {

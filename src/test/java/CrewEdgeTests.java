@@ -33,6 +33,7 @@ public final class CrewEdgeTests {
         backAndItStays();
         backToAllButTapeAndFault();
         backToEachThing();
+        backToWhatCanBeTakenBack();
         anImageOfAground();
         anImageIsNoPartOfItself();
         aboutEachThing();
@@ -444,6 +445,35 @@ public final class CrewEdgeTests {
         Due.feed(x, "tide !");
         x.text();
         Due.feed(x, "speed 4;");
+    }
+
+    /** The same: the HOURS that could be taken back, though others came over them. */
+    private static void backToWhatCanBeTakenBack() {
+        for (int hours = 0; hours <= 40; hours += 5) {
+            ShipUnstopped x = new ShipUnstopped(7);
+            int[] states = new int[41];
+            for (int i = 0; i < hours; i++) {
+                states[i] = x.ship(0);
+                x.go(i % 2 == 0 ? 8 : 0, 1);
+            }
+            x.image();
+            int kept = Math.min(30, hours);
+            for (int i = 0; i < hours / 2; i++) {
+                x.undo();
+            }
+            for (int i = 0; i < 35; i++) {
+                x.go(4, 1);
+            }
+            x.back();
+            Due.is("about(6)", x.about(6), kept);
+            for (int i = 1; i <= kept; i++) {
+                Due.is("undo", x.undo(), kept - i);
+                Due.is("state", x.ship(0), states[hours - i]);
+                Due.is("days", x.ship(2), (hours - i) / 8);
+                Due.is("laps", x.ship(3), (hours - i) / 7);
+            }
+            Due.is("no more", x.undo(), -1);
+        }
     }
 
     private static void anImageOfAground() {

@@ -491,6 +491,15 @@ public final class RingEdgeTests {
         Due.is("aground", x.ship(1), 0);
         Due.is("one hour can be taken back", x.about(6), 1);
         Due.yes("what it could do from there is told all the same", x.becomes(x.ship(0), 4, 1) == Due.state(0, 2, 1, 1));
+        // it is in the new LANE then
+        for (int lane = 0; lane < 3; lane += 2) {
+            ShipUnstopped y = new ShipUnstopped(6);
+            y.go(8, 1);
+            Due.rule(y, "draught 1;");
+            y.depth(lane, 2, 0);
+            Due.is("aground", y.go(4 * lane, 1), Due.ground(lane, 2));
+            Due.is("there", y.ship(0), Due.state(lane, 2, 1, 1));
+        }
     }
 
     /** "Else HOUR is one more (behind 7: 0, and DAYS one more)". */

@@ -42,6 +42,11 @@ public final class TextEdgeTests {
         atEachStep();
         fromTheLeft();
         bothSidesAlways();
+        comparedWithTheLike();
+        namesAtTheirEnds();
+        placeOfWhichItSetsOutAndTheNewLane();
+        placeOfTideIsComeTo();
+        aFaultLeavesNothingOpen();
         theEndAtTheLength();
         theFirstAsTokensComeTo();
         ofOneTokenTheLeast();
@@ -310,6 +315,9 @@ public final class TextEdgeTests {
         Due.fault(" ".repeat(300), 0, 0);
         Due.fault("\n".repeat(292) + "speed 1;", 0, 0);
         Due.fault("a".repeat(300), 1, 0);
+        Due.fault(";".repeat(300), 1, 0);
+        Due.fault("speed" + "-".repeat(295), 3, 13);
+        Due.fault("speed" + "1".repeat(3) + "+1".repeat(146), 1, 300);
         Due.fault("9".repeat(300), 1, 0);
         Due.fault("speed " + "9".repeat(294), 2, 6);
         Due.fault("speed " + "0".repeat(293) + ";", 0, 0);
@@ -627,6 +635,103 @@ public final class TextEdgeTests {
         }
     }
 
+    /** "one of < <= > >= = # (unlike)": below, like and above. */
+    private static void comparedWithTheLike() {
+        String[] signs = {"<", "<=", ">", ">=", "=", "#"};
+        String[] values = {"-1000*1000", "-1", "0", "1", "9999", "1000*1000"};
+        for (int a = 0; a < 6; a++) {
+            for (int b = 0; b < 6; b++) {
+                boolean[] so = {a < b, a <= b, a > b, a >= b, a == b, a != b};
+                for (int i = 0; i < 6; i++) {
+                    ShipUnstopped x = new ShipUnstopped(4);
+                    x.rocks(2);
+                    String ask = values[a] + signs[i] + values[b];
+                    Due.rule(x, "tide " + ask + ";");
+                    Due.is(ask, x.becomes(1, 4, 1), so[i] ? Due.state(0, 1, 1, 1) : Due.ground(0, 1));
+                    Due.rule(x, "tide not " + ask + ";");
+                    Due.is("not " + ask, x.becomes(1, 4, 1), so[i] ? Due.ground(0, 1) : Due.state(0, 1, 1, 1));
+                }
+            }
+        }
+    }
+
+    /** The NAMES of speed at the ends of what they can be. */
+    private static void namesAtTheirEnds() {
+        for (int end = 0; end < 2; end++) {
+            int hour = 7 * end;
+            int last = 1 + 3 * end;
+            int place = 11 * end;
+            int state = Due.state(1, place, hour, last);
+            String[] names = {"hour", "weight", "sail", "wind", "last", "place", "lane"};
+            int[] values = {hour, 99 * end, 3 * end, 3 * end, last, place, 2 * end};
+            for (int i = 0; i < 7; i++) {
+                ShipUnstopped x = new ShipUnstopped(12);
+                x.weigh(99 * end);
+                Due.rule(x, "speed 2+" + names[i] + "-" + values[i] + ";");
+                Due.is(names[i], x.becomes(state, 11 * end, 3 * end), Due.state(2 * end, (place + 2) % 12, (hour + 1) % 8, 2));
+            }
+        }
+    }
+
+    /** "place, lane (of which it sets out; the new one)". */
+    private static void placeOfWhichItSetsOutAndTheNewLane() {
+        ShipUnstopped x = new ShipUnstopped(12);
+        Due.rule(x, "speed place-4;");
+        for (int place = 0; place < 12; place++) {
+            int speed = Math.max(1, Math.min(4, place - 4));
+            Due.is("from " + place, x.becomes(Due.state(0, place, 0, 1), 8, 1), Due.state(1, (place + speed) % 12, 1, speed));
+        }
+        Due.rule(x, "speed lane+2;");
+        for (int lane = 0; lane < 3; lane++) {
+            for (int steer = -1; steer <= 1; steer++) {
+                int to = lane + steer;
+                int due = to < 0 || to > 2 ? -1 : Due.state(to, to + 2, 1, to + 2);
+                Due.is("from lane " + lane + " to " + to, x.becomes(Due.state(lane, 0, 0, 1), Due.choice(steer, 0), 1), due);
+                Due.is("reach", x.reach(Due.state(lane, 0, 0, 1), 1, Math.max(0, Math.min(2, to))),
+                    due >= 0 ? 1 << to + 2 : 1 << Math.max(0, Math.min(2, to)) + 2);
+            }
+        }
+    }
+
+    /** "of tide besides: place": each PLACE with ROCKS to which it comes. */
+    private static void placeOfTideIsComeTo() {
+        for (int bare = 0; bare < 6; bare++) {
+            ShipUnstopped x = new ShipUnstopped(6);
+            Due.rule(x, "speed 3;tide place#" + bare + ";");
+            x.rocks(63);
+            for (int from = 0; from < 6; from++) {
+                int steps = (bare - from + 6) % 6;
+                boolean ground = steps >= 1 && steps <= 3;
+                Due.is("from " + from + " with " + bare + " bare", x.becomes(Due.state(2, from, 4, 1), 4, 1),
+                    ground ? Due.ground(2, bare) : Due.state(2, (from + 3) % 6, 5, 3));
+            }
+        }
+    }
+
+    /** A text that ended in the midst of what was open counts nothing of it for the next one. */
+    private static void aFaultLeavesNothingOpen() {
+        ShipUnstopped x = new ShipUnstopped(12);
+        for (String faulty : new String[] {"speed ((((((((!", "speed --------fast", "tide not not not not not not not not 10000", "speed (((((((((1"}) {
+            Due.feed(x, faulty);
+            Due.is("text", x.text(), -1);
+        }
+        Due.rule(x, "speed ((((((((3))))))));draught --------5;");
+        Due.is("speed 3", x.becomes(1, 4, 1), Due.state(0, 3, 1, 3));
+        // nor do clauses that it had
+        Due.feed(x, "speed 1;draught 1;tide 1=2;!");
+        Due.is("text", x.text(), -1);
+        Due.rule(x, "draught 0;");
+        x.rocks(4095);
+        Due.is("speed 1, tide so", x.becomes(1, 4, 1), Due.state(0, 1, 1, 1));
+        // however often: no room is lost
+        for (int i = 0; i < 20; i++) {
+            Due.feed(x, "speed 1" + "+1".repeat(140) + "!");
+            Due.is("text", x.text(), -1);
+        }
+        Due.rule(x, "speed 1" + "+1-1".repeat(70) + "+1;");
+        Due.is("speed 2", x.becomes(1, 4, 1), Due.state(0, 2, 1, 2));
+    }
+
     /** FAULTS: "(of the end at the length)". */
     private static void theEndAtTheLength() {
         String text = "speed 1+(hour);draught -fast;tide not 1<=2 and 3>place;";
@@ -640,6 +745,12 @@ public final class TextEdgeTests {
                 from--;
             }
             Due.fault(cut, whole ? 0 : 1, from);
+            ShipUnstopped x = new ShipUnstopped(4);
+            Due.feed(x, text);
+            x.end(n);
+            x.text();
+            Due.is("fault(0), cut to " + n, x.fault(0), whole ? 0 : 1);
+            Due.is("fault(1), cut to " + n, x.fault(1), whole ? -1 : from);
             if (!whole && !inAWord) {
                 Due.fault(cut + " \n ", 1, n + 3);
             }
