@@ -22,6 +22,7 @@ public final class ChartEdgeTests {
         keptToNinetyNine();
         keptFalseForOthers();
         keptByEachWind();
+        keptByOneChoiceAlone();
         keptByALaneThatIsThere();
         keptForEverIsForAnyN();
         thinkNoneWhereAllAreKept();
@@ -248,6 +249,29 @@ public final class ChartEdgeTests {
         Due.yes("by sail 0, speed 1", x.kept(1, -1));
         Due.rule(x, "speed wind*(sail+1);draught fast/3;");
         Due.no("by no sail", x.kept(1, 1));
+    }
+
+    /** "there is a CHOICE so that": whichever of the twelve it is, if no other does. */
+    private static void keptByOneChoiceAlone() {
+        for (int choice = 0; choice < 12; choice++) {
+            ShipUnstopped x = new ShipUnstopped(5);
+            int sail = choice % 4;
+            int deep = choice / 4;
+            Due.rule(x, "speed 1+(sail-" + sail + ")*(sail-" + sail + ");draught 8*fast-7;");
+            allHours(x, 15);
+            for (int place = 0; place < 5; place++) {
+                allLanes(x, place, 0);
+                x.depth(deep, place, 8);
+            }
+            Due.is("think, choice " + choice, x.think(), deep == 1 ? 0 : 1);
+            int state = Due.state(1, 2, 7, 3);
+            Due.yes("kept, choice " + choice, x.kept(state, -1));
+            Due.is("best, choice " + choice, x.best(state), choice);
+            Due.is("for sure, choice " + choice, x.between(state, 2, 2, true), 10);
+            Due.is("with luck, choice " + choice, x.between(state, 2, 2, false), 10);
+            Due.is("reach, choice " + choice, x.reach(state, 1, deep), 8);
+            Due.is("meet, choice " + choice, x.meet(state, 3, 0, 1), 1);
+        }
     }
 
     /** The same: a CHOICE whose LANE isn't there is none. */
